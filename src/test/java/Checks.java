@@ -1,0 +1,27 @@
+/** What the tests share: compares answers, tells the wrong ones, ends the program. */
+final class Checks {
+    private static int checked = 0;
+    private static int wrong = 0;
+
+    private Checks() {
+    }
+
+    static void due(String call, long got, long want) {
+        checked++;
+        if (got != want) {
+            wrong++;
+            System.out.println(call + " answered " + got + ", due is " + want);
+        }
+    }
+
+    static void due(String call, boolean got, boolean want) {
+        due(call, got ? 1 : 0, want ? 1 : 0);
+    }
+
+    static void finish() {
+        System.out.println(checked + " answers looked at, " + wrong + " of them wrong");
+        if (wrong != 0 || checked == 0) {
+            System.exit(1);
+        }
+    }
+}
