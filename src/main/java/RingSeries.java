@@ -174,6 +174,7 @@ public final class RingSeries {
     private int onLine(int earlier, int time) {
         int began = points.startOf(earlier);
         long gap = (long) points.startOf(earlier + 1) - began;
+        // Times only grow, so this never is; it stands here because the gap divides.
         if (gap <= 0) {
             return valueOf(earlier);
         }

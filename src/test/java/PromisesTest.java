@@ -306,6 +306,9 @@ public final class PromisesTest {
         // The coarse bucket 0 .. 39 is before the first point, but goes past level 1's beginning.
         RingSeries over = series(1, 2, 9, 10, 4, 1, 1, 31, 1, 45, 1);
         Checks.due("12: coarse over level 1's beginning", over.reach(0, 99), 1 + 1);
+        // The coarse bucket 0 .. 1 ends in the very time at which level 1 begins.
+        RingSeries meets = series(1, 2, 9, 1, 2, 0, 1, 1, 1, 5, 1);
+        Checks.due("12: coarse ends where level 1 begins", meets.reach(0, 99), 1 + 1);
         RingSeries last = series(1, 1, 9, 1_000_000, 1_000, 1, 1, 1_500_000_000, 1, MAX, 1);
         Checks.due("12: the last times", last.reach(0, MAX), 1 + 2);
     }

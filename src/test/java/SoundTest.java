@@ -7,10 +7,10 @@ import java.lang.reflect.Field;
 public final class SoundTest {
     public static void main(String[] args) throws ReflectiveOperationException {
         for (int what = 0; what < 4; what++) {
-            dueBroken("points", 1, what, false);
-            dueBroken("fine", 1, what, false);
-            dueBroken("coarse", 0, what, false);
-            dueBroken("coarse", 1, what, false);
+            dueBroken("points", 1, what);
+            dueBroken("fine", 1, what);
+            dueBroken("coarse", 0, what);
+            dueBroken("coarse", 1, what);
         }
         dueFreeWhereSomeAreGone();
         Checks.finish();
@@ -25,13 +25,13 @@ public final class SoundTest {
         return x;
     }
 
-    private static void dueBroken(String ring, int slot, int what, boolean due) throws ReflectiveOperationException {
+    private static void dueBroken(String ring, int slot, int what) throws ReflectiveOperationException {
         RingSeries x = full(8, 4);
         Checks.due("sound() unbroken", x.sound(), true);
         // Least and greatest show it only if the broken value is beyond the others.
         int by = what == 0 ? -1000 : 1000;
         figures(x, ring)[what][slot] += by;
-        Checks.due("sound() with " + ring + " slot " + slot + " figure " + what + " broken", x.sound(), due);
+        Checks.due("sound() with " + ring + " slot " + slot + " figure " + what + " broken", x.sound(), false);
         figures(x, ring)[what][slot] -= by;
         Checks.due("sound() mended", x.sound(), true);
     }
