@@ -1,7 +1,7 @@
 /** One method for each promise: ordinary inputs, the edges that the document names, wrong inputs. */
 public final class PromisesTest {
-    private static final int MIN = Integer.MIN_VALUE;
-    private static final int MAX = Integer.MAX_VALUE;
+    private static final int MIN = Checks.MIN;
+    private static final int MAX = Checks.MAX;
 
     public static void main(String[] args) {
         constants();
@@ -26,14 +26,6 @@ public final class PromisesTest {
         Checks.due("STALE", RingSeries.STALE, 1);
     }
 
-    private static RingSeries series(int points, int fine, int coarse, int width, int k, int... pairs) {
-        RingSeries x = new RingSeries(points, fine, coarse, width, k);
-        for (int i = 0; i < pairs.length; i += 2) {
-            Checks.due("1/2: append(" + pairs[i] + ", " + pairs[i + 1] + ")", x.append(pairs[i], pairs[i + 1]), 0);
-        }
-        return x;
-    }
-
     /** So many points, one in each coarse bucket, tell how much room each level has. */
     private static void dueRoom(String what, int given, int room) {
         RingSeries x = new RingSeries(given, given, given, 1, 2);
@@ -48,10 +40,10 @@ public final class PromisesTest {
 
     private static void dueWidths(int width, int k, int fineWidth, int coarseWidth) {
         String what = "1: width " + width + ", k " + k + ", ";
-        RingSeries x = series(9, 9, 9, width, k, MAX, 1);
+        RingSeries x = Checks.series(9, 9, 9, width, k, MAX, 1);
         Checks.due(what + "start(1, 0)", x.start(1, 0), MAX / fineWidth * (long) fineWidth);
         Checks.due(what + "start(2, 0)", x.start(2, 0), MAX / coarseWidth * (long) coarseWidth);
-        RingSeries y = series(9, 9, 9, width, k, 0, 1, coarseWidth - 1, 1, coarseWidth, 1);
+        RingSeries y = Checks.series(9, 9, 9, width, k, 0, 1, coarseWidth - 1, 1, coarseWidth, 1);
         Checks.due(what + "coarse buckets", y.count(2), 2);
         Checks.due(what + "points in the first", y.figure(2, 0, 3), 2);
     }
@@ -124,7 +116,7 @@ public final class PromisesTest {
     }
 
     private static void promise4Start() {
-        RingSeries x = series(3, 2, 2, 10, 3, 5, 1, 9, 1, 10, 1, 34, 1, 95, 1);
+        RingSeries x = Checks.series(3, 2, 2, 10, 3, 5, 1, 9, 1, 10, 1, 34, 1, 95, 1);
         int[][] starts = {{10, 34, 95}, {30, 90}, {30, 90}};
         for (int level = 0; level <= 2; level++) {
             for (int i = 0; i < starts[level].length; i++) {
@@ -147,7 +139,7 @@ public final class PromisesTest {
     }
 
     private static void promise5Figure() {
-        RingSeries x = series(2, 3, 3, 10, 2, 1, -5, 2, 7, 3, 4, 12, 9, 25, -1, 26, -8);
+        RingSeries x = Checks.series(2, 3, 3, 10, 2, 1, -5, 2, 7, 3, 4, 12, 9, 25, -1, 26, -8);
         dueFigures(x, 0, 0, -1, -1, -1, 1);
         dueFigures(x, 0, 1, -8, -8, -8, 1);
         dueFigures(x, 1, 0, -5, 7, 6, 3);
@@ -160,16 +152,16 @@ public final class PromisesTest {
         for (int[] w : wrong) {
             Checks.due("5: figure(" + w[0] + ", " + w[1] + ", " + w[2] + ")", x.figure(w[0], w[1], w[2]), 0);
         }
-        RingSeries wraps = series(5, 5, 5, 10, 2, 0, MAX, 1, MAX, 2, 3);
+        RingSeries wraps = Checks.series(5, 5, 5, 10, 2, 0, MAX, 1, MAX, 2, 3);
         dueFigures(wraps, 1, 0, 3, MAX, 1, 3);
         dueFigures(wraps, 2, 0, 3, MAX, 1, 3);
-        RingSeries refilled = series(1, 1, 1, 1, 2, 0, -9, 1, 9, 4, 2);
+        RingSeries refilled = Checks.series(1, 1, 1, 1, 2, 0, -9, 1, 9, 4, 2);
         dueFigures(refilled, 1, 0, 2, 2, 2, 1);
         dueFigures(refilled, 2, 0, 2, 2, 2, 1);
     }
 
     private static void promise6Many() {
-        RingSeries x = series(3, 3, 3, 10, 2, 0, 1, 5, 1, 6, 1, MAX, 1);
+        RingSeries x = Checks.series(3, 3, 3, 10, 2, 0, 1, 5, 1, 6, 1, MAX, 1);
         Checks.due("6: many(MIN, MAX)", x.many(MIN, MAX), 3);
         Checks.due("6: many(0, 4), the point is gone", x.many(0, 4), 0);
         Checks.due("6: many(5, 6)", x.many(5, 6), 2);
@@ -183,7 +175,7 @@ public final class PromisesTest {
     }
 
     private static void promise7Extreme() {
-        RingSeries x = series(4, 3, 3, 10, 2, 0, 99, 1, -4, 2, -9, 3, -2, 4, -7);
+        RingSeries x = Checks.series(4, 3, 3, 10, 2, 0, 99, 1, -4, 2, -9, 3, -2, 4, -7);
         Checks.due("7: extreme(0, 9, 1)", x.extreme(0, 9, 1), -2);
         Checks.due("7: extreme(0, 9, -1)", x.extreme(0, 9, -1), -9);
         Checks.due("7: extreme(3, 4, -1)", x.extreme(3, 4, -1), -7);
@@ -195,13 +187,13 @@ public final class PromisesTest {
         for (int sign : wrong) {
             Checks.due("7: extreme(0, 9, " + sign + ")", x.extreme(0, 9, sign), 0);
         }
-        RingSeries far = series(4, 3, 3, 10, 2, 0, MAX, 1, MIN);
+        RingSeries far = Checks.series(4, 3, 3, 10, 2, 0, MAX, 1, MIN);
         Checks.due("7: least of all", far.extreme(MIN, MAX, -1), MIN);
         Checks.due("7: greatest of all", far.extreme(MIN, MAX, 1), MAX);
     }
 
     private static void promise8Sum() {
-        RingSeries x = series(3, 3, 3, 10, 2, 0, 50, 1, MAX, 2, MAX, 3, 4);
+        RingSeries x = Checks.series(3, 3, 3, 10, 2, 0, 50, 1, MAX, 2, MAX, 3, 4);
         Checks.due("8: sum(0, 9)", x.sum(0, 9), 2L * MAX + 4);
         Checks.due("8: sum(2, 3)", x.sum(2, 3), MAX + 4L);
         Checks.due("8: sum(3, 3)", x.sum(3, 3), 4);
@@ -215,7 +207,7 @@ public final class PromisesTest {
     }
 
     private static void promise9At() {
-        RingSeries x = series(4, 3, 3, 10, 2, 0, 7, 10, 4, 20, -3, 23, 10, 30, 9);
+        RingSeries x = Checks.series(4, 3, 3, 10, 2, 0, 7, 10, 4, 20, -3, 23, 10, 30, 9);
         Checks.due("9: at(9, false), the point is gone", x.at(9, false), 0);
         Checks.due("9: at(9, true)", x.at(9, true), 0);
         Checks.due("9: at(MIN, true)", x.at(MIN, true), 0);
@@ -234,17 +226,17 @@ public final class PromisesTest {
         Checks.due("9: at(31, true)", x.at(31, true), 9);
         Checks.due("9: at(MAX, true)", x.at(MAX, true), 9);
         Checks.due("9: at(MAX, false)", x.at(MAX, false), 9);
-        RingSeries far = series(4, 3, 3, 10, 2, 0, MIN, MAX, MAX);
+        RingSeries far = Checks.series(4, 3, 3, 10, 2, 0, MIN, MAX, MAX);
         Checks.due("9: far up, at(1, true)", far.at(1, true), MIN + 2);
         Checks.due("9: far up, at(MAX - 1, true)", far.at(MAX - 1, true), MAX - 3);
         Checks.due("9: far up, at(MAX, true)", far.at(MAX, true), MAX);
-        RingSeries down = series(4, 3, 3, 10, 2, 0, MAX, MAX, MIN);
+        RingSeries down = Checks.series(4, 3, 3, 10, 2, 0, MAX, MAX, MIN);
         Checks.due("9: far down, at(MAX - 1, true)", down.at(MAX - 1, true), MIN + 3);
         Checks.due("9: far down, at(1, true)", down.at(1, true), MAX - 2);
     }
 
     private static void promise10Steepest() {
-        RingSeries x = series(5, 3, 3, 10, 2, 0, -90, 1, 0, 2, 3, 3, 1, 4, 4, 5, -9);
+        RingSeries x = Checks.series(5, 3, 3, 10, 2, 0, -90, 1, 0, 2, 3, 3, 1, 4, 4, 5, -9);
         Checks.due("10: steepest(0, 9), of like ones the first", x.steepest(0, 9), 1);
         Checks.due("10: steepest(2, 9)", x.steepest(2, 9), 3);
         Checks.due("10: steepest(2, 3), one that falls", x.steepest(2, 3), 2);
@@ -253,16 +245,16 @@ public final class PromisesTest {
         Checks.due("10: steepest(6, 9)", x.steepest(6, 9), RingSeries.BAD);
         Checks.due("10: steepest(0, 1), the earlier is gone", x.steepest(0, 1), RingSeries.BAD);
         Checks.due("10: steepest(5, 1)", x.steepest(5, 1), RingSeries.BAD);
-        RingSeries falls = series(5, 3, 3, 10, 2, 0, 0, 1, -5, 2, -7, 3, -11);
+        RingSeries falls = Checks.series(5, 3, 3, 10, 2, 0, 0, 1, -5, 2, -7, 3, -11);
         Checks.due("10: the one that falls least", falls.steepest(0, 9), 2);
-        RingSeries far = series(5, 3, 3, 10, 2, 0, 0, 1, 5, 2, MIN, 3, MAX);
+        RingSeries far = Checks.series(5, 3, 3, 10, 2, 0, 0, 1, 5, 2, MIN, 3, MAX);
         Checks.due("10: a rise of more than 32 bits", far.steepest(0, 9), 3);
-        RingSeries deep = series(5, 3, 3, 10, 2, 0, MAX, 1, MIN, 2, MIN);
+        RingSeries deep = Checks.series(5, 3, 3, 10, 2, 0, MAX, 1, MIN, 2, MIN);
         Checks.due("10: a fall of more than 32 bits", deep.steepest(0, 9), 2);
     }
 
     private static void promise11Median() {
-        RingSeries x = series(5, 3, 3, 10, 2, 0, 1000, 1, 8, 2, -6, 3, 5, 4, 5, 5, -2);
+        RingSeries x = Checks.series(5, 3, 3, 10, 2, 0, 1000, 1, 8, 2, -6, 3, 5, 4, 5, 5, -2);
         Checks.due("11: median(0, 9)", x.median(0, 9), 5);
         Checks.due("11: median(1, 4)", x.median(1, 4), 5);
         Checks.due("11: median(1, 2), of two the lesser", x.median(1, 2), -6);
@@ -273,13 +265,13 @@ public final class PromisesTest {
         Checks.due("11: median(3, 1)", x.median(3, 1), 0);
         Checks.due("11: again median(0, 9)", x.median(0, 9), 5);
         Checks.due("11: entries stay in their order", x.figure(0, 0, 0), 8);
-        RingSeries far = series(5, 3, 3, 10, 2, 0, MAX, 1, MIN, 2, 0);
+        RingSeries far = Checks.series(5, 3, 3, 10, 2, 0, MAX, 1, MIN, 2, 0);
         Checks.due("11: far values", far.median(MIN, MAX), 0);
     }
 
     private static void promise12Reach() {
         // Kept: points 47 .. 50; level 1 from 20 on; level 2 from 0 on.
-        RingSeries x = series(4, 4, 9, 10, 2, 1, 1, 5, 1, 12, 1, 21, 1, 28, 1, 33, 1, 41, 1, 47, 1, 48, 1, 49, 1, 50, 1);
+        RingSeries x = Checks.series(4, 4, 9, 10, 2, 1, 1, 5, 1, 12, 1, 21, 1, 28, 1, 33, 1, 41, 1, 47, 1, 48, 1, 49, 1, 50, 1);
         Checks.due("12: reach(MIN, MAX)", x.reach(MIN, MAX), 4 + 3 + 3);
         Checks.due("12: reach(0, 50)", x.reach(0, 50), 10);
         Checks.due("12: reach(1, 50), a coarse one cut", x.reach(1, 50), 7);
@@ -296,20 +288,20 @@ public final class PromisesTest {
         Checks.due("12: reach(50, 0)", x.reach(50, 0), 0);
         Checks.due("12: new reach", new RingSeries(4, 4, 4, 10, 2).reach(MIN, MAX), 0);
         // A fine bucket that ends just before the first point, and one that holds it.
-        RingSeries edge = series(1, 9, 9, 10, 2, 3, 1, 10, 1);
+        RingSeries edge = Checks.series(1, 9, 9, 10, 2, 3, 1, 10, 1);
         Checks.due("12: wholly before", edge.reach(0, 99), 2);
-        RingSeries in = series(1, 9, 9, 10, 2, 3, 1, 9, 1);
+        RingSeries in = Checks.series(1, 9, 9, 10, 2, 3, 1, 9, 1);
         Checks.due("12: not wholly before", in.reach(0, 99), 1);
         // Level 1 begins after the first point: the coarse bucket from 20 on goes past that one.
-        RingSeries late = series(3, 1, 9, 10, 2, 5, 1, 22, 1, 25, 1, 39, 1, 60, 1);
+        RingSeries late = Checks.series(3, 1, 9, 10, 2, 5, 1, 22, 1, 25, 1, 39, 1, 60, 1);
         Checks.due("12: late level 1", late.reach(0, 99), 1 + 3);
         // The coarse bucket 0 .. 39 is before the first point, but goes past level 1's beginning.
-        RingSeries over = series(1, 2, 9, 10, 4, 1, 1, 31, 1, 45, 1);
+        RingSeries over = Checks.series(1, 2, 9, 10, 4, 1, 1, 31, 1, 45, 1);
         Checks.due("12: coarse over level 1's beginning", over.reach(0, 99), 1 + 1);
         // The coarse bucket 0 .. 1 ends in the very time at which level 1 begins.
-        RingSeries meets = series(1, 2, 9, 1, 2, 0, 1, 1, 1, 5, 1);
+        RingSeries meets = Checks.series(1, 2, 9, 1, 2, 0, 1, 1, 1, 5, 1);
         Checks.due("12: coarse ends where level 1 begins", meets.reach(0, 99), 1 + 1);
-        RingSeries last = series(1, 1, 9, 1_000_000, 1_000, 1, 1, 1_500_000_000, 1, MAX, 1);
+        RingSeries last = Checks.series(1, 1, 9, 1_000_000, 1_000, 1, 1, 1_500_000_000, 1, MAX, 1);
         Checks.due("12: the last times", last.reach(0, MAX), 1 + 2);
     }
 
@@ -323,7 +315,7 @@ public final class PromisesTest {
                 }
             }
         }
-        Checks.due("13: sums that wrap", series(9, 9, 9, 2, 2, 0, MAX, 1, MAX, 2, MAX, 3, MAX).sound(), true);
+        Checks.due("13: sums that wrap", Checks.series(9, 9, 9, 2, 2, 0, MAX, 1, MAX, 2, MAX, 3, MAX).sound(), true);
     }
 
     private static void dueSound(int points, int fine, int coarse) {
