@@ -37,7 +37,40 @@ public final class FaceTest {
             }
         }
         Checks.due("the face " + seen, seen.equals(FACE), true);
+        namesApart(RingSeries.class);
+        stateless(RingSeries.class);
+        for (Class<?> inside : RingSeries.class.getDeclaredClasses()) {
+            Checks.due(inside + " is static", Modifier.isStatic(inside.getModifiers()), true);
+            int wide = inside.getModifiers() & (Modifier.PUBLIC | Modifier.PROTECTED);
+            Checks.due(inside + " is not public or protected", wide, 0);
+            namesApart(inside);
+            stateless(inside);
+        }
+        Checks.due("constants", RingSeries.BAD + ", " + RingSeries.STALE, "-1, 1");
+        Checks.due("it stands for itself alone", RingSeries.class.getSuperclass() == Object.class, true);
+        Checks.due("interfaces", RingSeries.class.getInterfaces().length, 0);
         Checks.due("the class is public and final", RingSeries.class.getModifiers(), Modifier.PUBLIC | Modifier.FINAL);
         Checks.finish();
+    }
+
+    /** LANGUAGE.md, rule 1: no private method bears the name of a public one. */
+    private static void namesApart(Class<?> of) {
+        for (Method m : of.getDeclaredMethods()) {
+            boolean shown = of == RingSeries.class && Modifier.isPublic(m.getModifiers());
+            for (String member : FACE) {
+                boolean like = member.matches("\\w+ " + m.getName() + "\\[.*");
+                Checks.due(of + ", " + m.getName() + " bears the name of " + member, like && !shown, false);
+            }
+        }
+    }
+
+    /** LANGUAGE.md, rule 5: static fields are final, and none of them holds what calls could change. */
+    private static void stateless(Class<?> of) {
+        for (Field f : of.getDeclaredFields()) {
+            if (Modifier.isStatic(f.getModifiers())) {
+                Checks.due(of + ", " + f.getName() + " is final", Modifier.isFinal(f.getModifiers()), true);
+                Checks.due(of + ", " + f.getName() + " is a number", f.getType().isPrimitive(), true);
+            }
+        }
     }
 }

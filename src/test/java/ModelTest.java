@@ -5,8 +5,8 @@ import java.util.List;
 import java.util.TreeSet;
 
 /**
- * Long runs of calls, each answer against a model that keeps every point that ever came and
- * works each answer out anew from the words of the document.
+ * Long runs of calls, and every small series, each answer against a model that keeps every point
+ * that ever came and works each answer out anew from the words of the document.
  */
 public final class ModelTest {
     private static final int RUNS = 1500;
@@ -18,7 +18,63 @@ public final class ModelTest {
         for (int run = 0; run < RUNS; run++) {
             oneRun(run);
         }
+        everySmallSeries();
         Checks.finish();
+    }
+
+    /** Rings of up to three entries, every choice of the times 0 .. 5, every span of them: no chance in it. */
+    private static void everySmallSeries() {
+        for (int rooms = 0; rooms < 27; rooms++) {
+            for (int widths = 0; widths < 4; widths++) {
+                for (int chosen = 0; chosen < 1 << 6; chosen++) {
+                    smallSeries(1 + rooms % 3, 1 + rooms / 3 % 3, 1 + rooms / 9, 1 + widths % 2, 2 + widths / 2, chosen);
+                }
+            }
+        }
+    }
+
+    private static void smallSeries(int points, int fine, int coarse, int width, int k, int chosen) {
+        RingSeries x = new RingSeries(points, fine, coarse, width, k);
+        Model m = new Model(points, fine, coarse, width, k);
+        String name = "(" + points + ", " + fine + ", " + coarse + ", " + width + ", " + k + "), times";
+        for (int time = 0; time < 6; time++) {
+            if ((chosen >> time & 1) == 1) {
+                name += " " + time;
+                int value = (time * time + chosen) % 7 - 3;
+                Checks.due(name + ", append", x.append(time, value), m.append(time, value));
+            }
+        }
+        for (int level = 0; level <= 2; level++) {
+            dueLevel(name + ", level " + level, x, m, level);
+        }
+        for (int from = -1; from <= 6; from++) {
+            Checks.due(name + ", at " + from, x.at(from, false), m.at(from, false));
+            Checks.due(name + ", at " + from + ", smooth", x.at(from, true), m.at(from, true));
+            for (int to = -1; to <= 6; to++) {
+                dueSpan(name + ", span " + from + " .. " + to, x, m, from, to);
+            }
+        }
+        Checks.due(name + ", sound()", x.sound(), true);
+    }
+
+    private static void dueLevel(String name, RingSeries x, Model m, int level) {
+        Checks.due(name + ", count", x.count(level), m.count(level));
+        for (int i = -1; i <= 3; i++) {
+            Checks.due(name + ", start of " + i, x.start(level, i), m.start(level, i));
+            for (int what = -1; what <= 4; what++) {
+                Checks.due(name + ", figure " + what + " of " + i, x.figure(level, i, what), m.figure(level, i, what));
+            }
+        }
+    }
+
+    private static void dueSpan(String name, RingSeries x, Model m, int from, int to) {
+        Checks.due(name + ", many", x.many(from, to), m.valuesOf(from, to).size());
+        Checks.due(name + ", the least", x.extreme(from, to, -1), m.extreme(from, to, -1));
+        Checks.due(name + ", the greatest", x.extreme(from, to, 1), m.extreme(from, to, 1));
+        Checks.due(name + ", sum", x.sum(from, to), m.sum(from, to));
+        Checks.due(name + ", steepest", x.steepest(from, to), m.steepest(from, to));
+        Checks.due(name + ", median", x.median(from, to), m.median(from, to));
+        Checks.due(name + ", reach", x.reach(from, to), m.reach(from, to));
     }
 
     /** A fixed row of numbers, so that every run of this test is the same. */
